@@ -40,6 +40,7 @@ public final class PromiseTests {
         promise18IsThreatened();
         promise19Gain();
         promise20Best();
+        promise20BestOfSeveral();
         promise21ToLock();
         promise22Boldest();
         promise23Farthest();
@@ -368,6 +369,15 @@ public final class PromiseTests {
         b.move(0, 0, true);
         due("6 turn stays as a king goes back", 0, b::turn);
 
+        FerryDraughts h = fresh();
+        h.ferry(1, 1, 11);
+        h.ferry(1, 3, 10);
+        h.ferry(0, 0, 0);
+        h.move(2, 0, true);
+        due("6 turn stays for one whose number became less", 0, h::turn);
+        due("6 again", 1, () -> h.move(1, 0, true));
+        due("6 then it goes", 1, h::turn);
+
         FerryDraughts t = fresh();
         t.ferry(0, 0, 0);
         t.tug(0, 1);
@@ -395,6 +405,12 @@ public final class PromiseTests {
         due("6 reason", "4:1 11:0", () -> refusals(x));
         due("6 not its way", REFUSED, () -> x.move(0, 0, false));
         due("6 reason of the way", "4:0 13:0", () -> refusals(x));
+        x.undo();
+        x.ferry(0, 4, 1);
+        due("6 own side there", REFUSED, () -> x.move(0, 1, true));
+        due("6 reason of the own side", "4:0 15:1", () -> refusals(x));
+        due("6 not its way on river 1", REFUSED, () -> x.move(1, 1, false));
+        due("6 reason of river 1", "4:1 13:1", () -> refusals(x));
         due("6 nothing changed", "2 0 0", () -> x.account(13) + " " + x.account(7) + " " + x.turn());
     }
 
@@ -413,6 +429,10 @@ public final class PromiseTests {
         x.fog(1, 9, 1);
         due("7 held by fog", 1, x::pass);
         due("7 fog drifted", true, () -> x.isFog(0, 4) && x.isFog(1, 10));
+        FerryDraughts y = fresh();
+        y.ferry(0, 11, 10);
+        due("7 one move is enough", REFUSED, y::pass);
+        due("7 reason of one move", "5:0", () -> refusals(y));
         due("7 passes", 5, () -> x.account(8));
     }
 
@@ -557,6 +577,13 @@ public final class PromiseTests {
         due("15 jump", 5, () -> x.to(0, 0, true));
         due("15 step", 4, () -> x.to(0, 1, true));
         due("15 cannot", NONE, () -> x.to(0, 1, false));
+        x.tug(1, 4);
+        x.tug(1, 5);
+        due("15 cannot on this river", NONE, () -> x.to(0, 1, true));
+        due("15 nor gains there", NONE, () -> x.gain(0, 1, true));
+        due("15 can on the other", 5, () -> x.to(0, 0, true));
+        x.undo();
+        x.undo();
         due("15 not in turn", NONE, () -> x.to(1, 1, false));
         due("15 ferry", INDEX, () -> x.to(2, 1, false));
         due("15 river", INDEX, () -> x.to(0, -1, false));
@@ -581,6 +608,13 @@ public final class PromiseTests {
         due("16 a jump", "3/3 1/1", () -> both(x, 0));
         x.fog(1, 3, 1);
         due("16 without those in fog", "2/2 1/1", () -> both(x, 0));
+        FerryDraughts y = fresh();
+        y.ferry(1, 1, 2);
+        y.tug(1, 1);
+        due("16 to the place 0", "2/2 0/0", () -> both(y, 1));
+        y.ferry(0, 10, 9);
+        y.tug(1, 10);
+        due("16 to the place 11", "2/2 0/0", () -> both(y, 0));
         due("16 side", ARGUMENT, () -> x.moves(2, false));
         due("16 side below", ARGUMENT, () -> x.moves(-1, true));
     }
@@ -675,6 +709,36 @@ public final class PromiseTests {
         due("20 a king back", "0 0 0", () -> best(y));
     }
 
+    private static void promise20BestOfSeveral() {
+        FerryDraughts x = fresh();
+        x.lock(0, 6, 1);
+        x.ferry(1, 7, 11);
+        x.pass();
+        x.move(0, 0, false);
+        x.ferry(0, 5, 0);
+        x.ferry(0, 0, 5);
+        x.ferry(1, 9, 6);
+        x.tug(0, 4);
+        x.tug(1, 4);
+        due("20 two points", 2, () -> x.gain(1, 0, true));
+        due("20 a point", 1, () -> x.gain(2, 1, true));
+        due("20 the greater gain comes first", "1 0 1", () -> best(x));
+
+        FerryDraughts y = fresh();
+        y.ferry(0, 0, 5);
+        y.ferry(0, 4, 0);
+        y.lock(0, 5, 1);
+        y.move(1, 0, true);
+        y.pass();
+        y.ferry(1, 6, 11);
+        y.ferry(1, 11, 6);
+        y.tug(0, 7);
+        y.tug(1, 7);
+        due("20 two points lost", -2, () -> y.gain(0, 0, true));
+        due("20 a point lost", -1, () -> y.gain(1, 0, false));
+        due("20 the lesser loss", "1 0 0", () -> best(y));
+    }
+
     private static void promise21ToLock() {
         FerryDraughts x = fresh();
         x.ferry(0, 4, 4);
@@ -696,6 +760,9 @@ public final class PromiseTests {
         due("21 a king to either side", 2, () -> x.toLock(0, 0));
         x.lock(0, 5, 3);
         due("21 a king to the nearer", 1, () -> x.toLock(0, 0));
+        x.ferry(0, 0, 0);
+        x.lock(1, 11, 1);
+        due("21 from its place on river 1", 11, () -> x.toLock(2, 1));
     }
 
     private static void promise22Boldest() {
@@ -727,6 +794,13 @@ public final class PromiseTests {
         x.ferry(0, 11, 1);
         due("23 order", "3 2 0 1", () -> x.farthest(0) + " " + x.farthest(1) + " " + x.farthest(2) + " "
                 + x.farthest(3));
+        FerryDraughts y = fresh();
+        y.ferry(1, 1, 1);
+        y.ferry(0, 11, 10);
+        y.ferry(0, 10, 11);
+        y.ferry(1, 0, 0);
+        due("23 from both ends", "3 1 2 0", () -> y.farthest(0) + " " + y.farthest(1) + " " + y.farthest(2) + " "
+                + y.farthest(3));
         due("23 no such place", NONE, () -> x.farthest(4));
         due("23 below", NONE, () -> x.farthest(LOW));
     }
@@ -914,6 +988,15 @@ public final class PromiseTests {
     }
 
     private static void promise31Account() {
+        FerryDraughts y = fresh();
+        y.tug(0, 0);
+        y.tug(0, 1);
+        y.tug(1, 11);
+        y.lock(0, 0, 1);
+        y.lock(1, 0, 3);
+        y.lock(1, 11, 2);
+        due("31 tugs of both rivers", 3, () -> y.account(3));
+        due("31 locks of both rivers", 3, () -> y.account(4));
         FerryDraughts x = fresh();
         due("31 below", ARGUMENT, () -> x.account(-1));
         due("31 above", ARGUMENT, () -> x.account(14));
