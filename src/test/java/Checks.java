@@ -26,6 +26,10 @@ final class Checks {
         }
     }
 
+    int made() {
+        return passed + failed;
+    }
+
     int failed() {
         return failed;
     }

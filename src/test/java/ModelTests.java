@@ -1,7 +1,9 @@
 /** Long runs of calls, the same at each time, whose answers a plain model of the document must give too. */
 public final class ModelTests {
-    private static final int RUNS = 4000;
+    private static final int RUNS = 7000;
     private static final int CALLS = 512;
+    // No round of calls takes more than this, so that no object is called more often than the document promises.
+    private static final int LONGEST_ROUND = 70;
     private static final int MOST_TOLD = 20;
     private static final int[] EDGES = {-1, 12, 2, Integer.MIN_VALUE, Integer.MAX_VALUE, 14, 8, 4, 5};
 
@@ -30,17 +32,18 @@ public final class ModelTests {
         FerryDraughts x = new FerryDraughts();
         Model model = new Model();
         int firstPlays = below(60);
-        for (int call = 0; call < CALLS && checks.failed() < MOST_TOLD; call++) {
-            String name = "run " + run + " call " + call + " ";
+        int before = checks.made();
+        for (int round = 0; checks.made() - before <= CALLS - LONGEST_ROUND && checks.failed() < MOST_TOLD; round++) {
+            String name = "run " + run + " round " + round + " ";
             int kind = below(100);
-            if (call < 12) {
+            if (round < 12) {
                 setUp(name, x, model, firstPlays);
             } else if (kind < 30) {
                 play(name, x, model);
             } else if (kind < 40) {
                 setUp(name, x, model, below(60));
             } else if (kind < 52) {
-                call += type(name, x, model);
+                type(name, x, model);
             } else if (kind < 60) {
                 turnBack(name, x, model);
             } else {
@@ -90,8 +93,8 @@ public final class ModelTests {
                 Checks.answerOf(() -> model.move(ferry, river, isGreater)), () -> x.move(ferry, river, isGreater));
     }
 
-    /** Types a text and runs it; how many calls that took beside one. */
-    private static int type(String name, FerryDraughts x, Model model) {
+    /** Types a text and runs it. */
+    private static void type(String name, FerryDraughts x, Model model) {
         String text = someText();
         for (int i = 0; i < text.length(); i++) {
             char c = text.charAt(i);
@@ -101,7 +104,6 @@ public final class ModelTests {
             checks.due(name + "run " + text, Checks.answerOf(model::run), x::run);
             checks.due(name + "error of " + text, model.error, x::errorPosition);
         }
-        return text.length() + 1;
     }
 
     private static String someText() {

@@ -72,60 +72,27 @@ public final class PromiseTests {
 
     /** The line of a river as a text. */
     private static String river(FerryDraughts x, int river) {
-        return lineOf(x, x.riverLine(river));
+        return Views.river(x, river);
     }
 
     private static String ferryText(FerryDraughts x, int ferry) {
-        return lineOf(x, x.ferryLine(ferry));
-    }
-
-    private static String lineOf(FerryDraughts x, int length) {
-        StringBuilder line = new StringBuilder();
-        for (int i = 0; i < length; i++) {
-            line.append(x.character(i));
-        }
-        return line.toString();
+        return Views.ferry(x, ferry);
     }
 
     private static Object run(FerryDraughts x, String text) {
-        for (int i = 0; i < text.length(); i++) {
-            x.append(text.charAt(i));
-        }
-        return Checks.answerOf(x::run);
+        return Views.run(x, text);
     }
 
-    /** The reasons of the latest refusal, as "6:1 4:0 11:1". */
     private static String refusals(FerryDraughts x) {
-        StringBuilder all = new StringBuilder();
-        for (int depth = 0; depth < 5; depth++) {
-            int at = depth;
-            Object reason = Checks.answerOf(() -> x.refusal(at, false));
-            Object detail = Checks.answerOf(() -> x.refusal(at, true));
-            if (reason == NONE && detail == NONE) {
-                break;
-            }
-            all.append(depth == 0 ? "" : " ").append(reason).append(':').append(detail);
-        }
-        return all.toString();
+        return Views.reasons(x);
     }
 
-    /** All that can be asked about the game itself, as one text. */
     private static String stateOf(FerryDraughts x) {
-        StringBuilder all = new StringBuilder();
-        for (int river = 0; river < 2; river++) {
-            for (int place = 0; place < 12; place++) {
-                all.append(x.at(river, place)).append(x.lockAt(river, place)).append(x.isFog(river, place) ? 'f' : '-');
-            }
-        }
-        for (int ferry = 0; ferry < x.account(0); ferry++) {
-            for (int what = 0; what < 6; what++) {
-                all.append(' ').append(x.ferryOf(ferry, what));
-            }
-        }
-        for (int what = 0; what < 12; what++) {
-            all.append(' ').append(x.account(what));
-        }
-        return all.append(' ').append(x.turn()).toString();
+        return Views.state(x);
+    }
+
+    private static String accounts(FerryDraughts x) {
+        return Views.accounts(x);
     }
 
     private static void promise1NewObject() {
@@ -1018,14 +985,6 @@ public final class PromiseTests {
         due("31 passed", "2 1 1 2 2 1 0 1 1 1 1 3 1 8", () -> accounts(x));
     }
 
-    private static String accounts(FerryDraughts x) {
-        StringBuilder all = new StringBuilder();
-        for (int what = 0; what < 14; what++) {
-            all.append(what == 0 ? "" : " ").append(x.account(what));
-        }
-        return all.toString();
-    }
-
     private static void promise32IsWell() {
         FerryDraughts x = fresh();
         due("32 empty", true, x::isWell);
@@ -1067,32 +1026,41 @@ public final class PromiseTests {
         due("34 a third", 1.0f / 3.0f, x::kingShare);
     }
 
-    private static void promise35Undo() {
+    private static void change(FerryDraughts x, int number) {
+        switch (number) {
+            case 0: x.ferry(0, 3, 0); break;
+            case 1: x.tug(1, 1); break;
+            case 2: x.lock(0, 5, 1); break;
+            case 3: x.fog(1, 11, 1); break;
+            case 4: x.ferry(1, 4, 9); break;
+            case 5: x.move(0, 0, true); break;
+            case 6: x.pass(); break;
+            case 7: run(x, "tug 0 9;move 0 1+"); break;
+            default: x.pass();
+        }
+    }
+
+    private static FerryDraughts changed(int count) {
         FerryDraughts x = fresh();
-        due("35 none", STATE, x::undo);
-        String[] states = new String[10];
-        states[0] = stateOf(x);
-        x.ferry(0, 3, 0);
-        states[1] = stateOf(x);
-        x.tug(1, 1);
-        states[2] = stateOf(x);
-        x.lock(0, 5, 1);
-        states[3] = stateOf(x);
-        x.fog(1, 11, 1);
-        states[4] = stateOf(x);
-        x.ferry(1, 4, 9);
-        states[5] = stateOf(x);
-        x.move(0, 0, true);
-        states[6] = stateOf(x);
-        x.pass();
-        states[7] = stateOf(x);
-        run(x, "tug 0 9;move 0 1+");
-        states[8] = stateOf(x);
-        x.pass();
-        for (int left = 7; left >= 0; left--) {
-            int count = left;
-            due("35 left", count, x::undo);
-            due("35 state " + (count + 1), states[count + 1], () -> stateOf(x));
+        for (int number = 0; number < count; number++) {
+            change(x, number);
+        }
+        return x;
+    }
+
+    private static void promise35Undo() {
+        due("35 none", STATE, () -> fresh().undo());
+        for (int undone = 1; undone <= 8; undone++) {
+            FerryDraughts x = changed(9);
+            for (int left = 7; left >= 8 - undone; left--) {
+                due("35 left", left, x::undo);
+            }
+            String state = stateOf(changed(9 - undone));
+            due("35 state after " + undone, state, () -> stateOf(x));
+        }
+        FerryDraughts x = changed(9);
+        for (int i = 0; i < 8; i++) {
+            x.undo();
         }
         due("35 eight at most", STATE, x::undo);
         Checks.answerOf(() -> x.move(0, 0, false));
