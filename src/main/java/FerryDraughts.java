@@ -486,7 +486,7 @@ public final class FerryDraughts {
 
         Rivers() {
             for (int i = WHO_AREA; i < LOCK_AREA; i++) {
-                cells[i] = NOBODY;
+                setCell(i, NOBODY);
             }
         }
 
@@ -505,14 +505,14 @@ public final class FerryDraughts {
         }
 
         void copyTo(int[] row, int start) {
-            if (start >= 0 && start <= row.length - CELLS) {
-                System.arraycopy(cells, 0, row, start, CELLS);
+            if (start >= 0 && start <= row.length - cells.length) {
+                System.arraycopy(cells, 0, row, start, cells.length);
             }
         }
 
         void copyFrom(int[] row, int start) {
-            if (start >= 0 && start <= row.length - CELLS) {
-                System.arraycopy(row, start, cells, 0, CELLS);
+            if (start >= 0 && start <= row.length - cells.length) {
+                System.arraycopy(row, start, cells, 0, cells.length);
             }
         }
 
@@ -1110,12 +1110,10 @@ public final class FerryDraughts {
         }
 
         void putAhead(int reason, int detail) {
-            for (int i = DEEPEST_REASON - 1; i > 0; i--) {
-                chain[i] = chain[i - 1];
-                details[i] = details[i - 1];
+            for (int i = Math.min(chain.length, details.length) - 1; i >= 0; i--) {
+                chain[i] = i > 0 ? chain[i - 1] : reason;
+                details[i] = i > 0 ? details[i - 1] : detail;
             }
-            chain[0] = reason;
-            details[0] = detail;
             count = Math.min(count + 1, DEEPEST_REASON);
         }
 

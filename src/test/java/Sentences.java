@@ -1,10 +1,7 @@
 import java.io.IOException;
-import java.lang.reflect.InvocationTargetException;
-import java.lang.reflect.Method;
 import java.nio.charset.StandardCharsets;
 import java.nio.file.Files;
 import java.nio.file.Path;
-import java.util.HashMap;
 import java.util.LinkedHashSet;
 import java.util.Map;
 import java.util.NoSuchElementException;
@@ -27,13 +24,10 @@ final class Sentences {
     private final Checks checks = new Checks();
     private final String document;
     private final Set<String> quoted = new LinkedHashSet<>();
-    private final Map<String, Method> methods = new HashMap<>();
+    private final Caller caller = new Caller();
 
     Sentences(String path) throws IOException {
         document = Files.readString(Path.of(path), StandardCharsets.UTF_8).replaceAll("\\s+", " ");
-        for (Method method : FerryDraughts.class.getDeclaredMethods()) {
-            methods.put(method.getName(), method);
-        }
     }
 
     /** Tests a sentence that stands in a part of the document, below a heading that begins so. */
@@ -145,7 +139,7 @@ final class Sentences {
             case "text": Views.type(x, rest); return x.run();
             case "times": return times(x, rest);
             case "reason": return answer(x, "why " + rest + " false") + ":" + answer(x, "why " + rest + " true");
-            default: return invoke(x, word, rest);
+            default: return caller.answer(x, word, rest);
         }
     }
 
@@ -156,38 +150,5 @@ final class Sentences {
             last = answer(x, rest.substring(blank + 1));
         }
         return last;
-    }
-
-    private Object invoke(FerryDraughts x, String word, String rest) {
-        Method method = methods.get(word);
-        String[] words = rest.isEmpty() ? new String[0] : rest.split(" ");
-        Object[] arguments = new Object[words.length];
-        for (int i = 0; i < words.length; i++) {
-            arguments[i] = argument(method.getParameterTypes()[i], words[i]);
-        }
-        try {
-            return method.invoke(x, arguments);
-        } catch (InvocationTargetException e) {
-            if (e.getCause() instanceof RuntimeException cause) {
-                throw cause;
-            }
-            throw new AssertionError(e);
-        } catch (IllegalAccessException e) {
-            throw new AssertionError(e);
-        }
-    }
-
-    private static Object argument(Class<?> type, String word) {
-        if (type == boolean.class) {
-            return Boolean.valueOf(word);
-        }
-        if (type == char.class) {
-            return word.charAt(0);
-        }
-        switch (word) {
-            case "MIN": return Integer.MIN_VALUE;
-            case "MAX": return Integer.MAX_VALUE;
-            default: return Integer.valueOf(word);
-        }
     }
 }
